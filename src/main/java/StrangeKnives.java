@@ -338,23 +338,21 @@ public final class StrangeKnives {
     public int safe() {
         lookAround();
         int cuttable = cuttableLoaves();
-        int best = NONE;
-        int most = 1;
         int all = town.allPeople();
-        for (int set = 1; set <= all; set++) {
-            int many = Integer.bitCount(set);
-            if (many > most && leavesCuttable(set, cuttable)) {
-                best = set;
-                most = many;
+        for (int many = town.people; many >= 2; many--) {
+            for (int set = 1; set <= all; set++) {
+                if (Integer.bitCount(set) == many && leavesCuttable(set, cuttable)) {
+                    return set;
+                }
             }
         }
-        return best;
+        return NONE;
     }
 
     private boolean leavesCuttable(int people, int cuttable) {
         int company = town.withTwins(people);
         for (int l = 0; l < town.loaves.many; l++) {
-            if (has(cuttable, l) && !circle.anyCutterAfter(town, company, l)) {
+            if (has(cuttable, l) && !circle.keepsCutter(town, company, l)) {
                 return false;
             }
         }
@@ -365,7 +363,7 @@ public final class StrangeKnives {
     private int cuttableLoaves() {
         int bits = 0;
         for (int l = 0; l < town.loaves.many; l++) {
-            if (memory.story.now.cutBy[l] == NONE && circle.cutters(town, l) != 0) {
+            if (memory.story.now.cutBy[l] == NONE && circle.cutters[l] != 0) {
                 bits |= 1 << l;
             }
         }
@@ -390,7 +388,7 @@ public final class StrangeKnives {
         int bits = 0;
         for (int l = 0; l < town.loaves.many; l++) {
             if (has(loaves, l)) {
-                bits |= circle.cutters(town, l);
+                bits |= circle.cutters[l];
             }
         }
         return bits;
@@ -411,7 +409,7 @@ public final class StrangeKnives {
     private boolean opensAll(int houses, int cuttable) {
         int dwellers = town.dwellers(houses);
         for (int l = 0; l < town.loaves.many; l++) {
-            if (has(cuttable, l) && (circle.cutters(town, l) & dwellers) == 0) {
+            if (has(cuttable, l) && (circle.cutters[l] & dwellers) == 0) {
                 return false;
             }
         }
@@ -493,7 +491,7 @@ public final class StrangeKnives {
         requireLoaf(loaf);
         requireEaterOrNone(loaf, i);
         lookAround();
-        int cutters = circle.cutters(town, loaf);
+        int cutters = circle.cutters[loaf];
         int best = NONE;
         int bestWorth = 0;
         for (int p = 0; p < town.people; p++) {
@@ -544,7 +542,7 @@ public final class StrangeKnives {
     }
 
     private int gain(int person, int mine, int others) {
-        return mine != others && circle.canCut(town, person, mine) ? town.loaves.size[mine] : 0;
+        return mine != others && has(circle.cutters[mine], person) ? town.loaves.size[mine] : 0;
     }
 
     public int season(int seed, int n, int what)
@@ -596,7 +594,7 @@ public final class StrangeKnives {
         circle.look(town, dream);
         int many = 0;
         for (int l = 0; l < town.loaves.many; l++) {
-            if (circle.cutters(town, l) != 0) {
+            if (circle.cutters[l] != 0) {
                 many++;
             }
         }
@@ -940,38 +938,38 @@ public final class StrangeKnives {
             start = blanksEnd(next);
             if (start >= end) {
                 token = END;
-            } else if (isIn(start, 'a', 'z')) {
+                return;
+            }
+            int sign = tape[start];
+            if (sign >= 'a' && sign <= 'z') {
                 token = WORD;
                 next = rowEnd(start, 'a', 'z');
-            } else if (isIn(start, '0', '9')) {
+            } else if (sign >= '0' && sign <= '9') {
                 token = NUMBER;
                 next = rowEnd(start, '0', '9');
                 number = numberBetween(start, next);
             } else {
-                int sign = tape[start];
                 token = sign > 0 && SIGNS.indexOf((char) sign) >= 0 ? SIGN : NO_TOKEN;
                 next = start + 1;
             }
         }
 
         private int blanksEnd(int from) {
-            int at = from;
-            for (int i = 0; i < MAX_TEXT && (isIn(at, ' ', ' ') || isIn(at, '\n', '\n')); i++) {
-                at++;
+            for (int at = from; at < end; at++) {
+                if (tape[at] != ' ' && tape[at] != '\n') {
+                    return at;
+                }
             }
-            return at;
-        }
-
-        private boolean isIn(int at, char low, char high) {
-            return at >= 0 && at < end && tape[at] >= low && tape[at] <= high;
+            return end;
         }
 
         private int rowEnd(int from, char low, char high) {
-            int at = from;
-            for (int i = 0; i < MAX_TEXT && isIn(at, low, high); i++) {
-                at++;
+            for (int at = from; at < end; at++) {
+                if (tape[at] < low || tape[at] > high) {
+                    return at;
+                }
             }
-            return at;
+            return end;
         }
 
         private int numberBetween(int from, int to) {
@@ -1089,20 +1087,14 @@ public final class StrangeKnives {
             loaves.eaterCount[loaf] = 0;
             loaves.eaterBits[loaf] = 0;
             loaves.many++;
-            readEater(into, loaf);
-            for (int i = 0; i < MAX_TEXT && fault == 0 && token == NUMBER; i++) {
-                readEater(into, loaf);
-            }
-        }
-
-        private void readEater(Town into, int loaf) {
-            Loaves loaves = into.loaves;
-            if (token == NUMBER && loaves.eaterCount[loaf] >= MAX_EATERS) {
-                fail(2);
-            }
-            int person = readPerson(into, loaves.eaterBits[loaf]);
-            if (fault == 0) {
-                loaves.addEater(loaf, person);
+            for (int i = 0; i <= MAX_EATERS && fault == 0 && (i == 0 || token == NUMBER); i++) {
+                if (i == MAX_EATERS) {
+                    fail(2);
+                }
+                int person = readPerson(into, loaves.eaterBits[loaf]);
+                if (fault == 0) {
+                    loaves.addEater(loaf, person);
+                }
             }
         }
 
@@ -1504,6 +1496,8 @@ public final class StrangeKnives {
     /** Who knows whom on some day. */
     private static final class Circle {
         final int[] known = new int[MAX_PEOPLE];
+        /** Those who can cut each loaf, were it not cut. */
+        final int[] cutters = new int[MAX_LOAVES];
 
         void look(Town town, Days days) {
             for (int p = 0; p < town.people; p++) {
@@ -1513,6 +1507,20 @@ public final class StrangeKnives {
                 }
                 known[p] = bits & ~(1 << p);
             }
+            for (int l = 0; l < town.loaves.many; l++) {
+                cutters[l] = strangersTo(town, town.loaves.eaterBits[l]);
+            }
+        }
+
+        /** Twins and those of one house know each other, so that knowing hinders for them too. */
+        private int strangersTo(Town town, int eaters) {
+            int bits = 0;
+            for (int p = 0; p < town.people; p++) {
+                if (((known[p] | 1 << p) & eaters) == 0) {
+                    bits |= 1 << p;
+                }
+            }
+            return bits;
         }
 
         private static int remembered(Town town, Days days, int person) {
@@ -1551,35 +1559,17 @@ public final class StrangeKnives {
             return true;
         }
 
-        /** Twins and those of one house know each other, so that knowing hinders for them too. */
-        private static boolean isStranger(Town town, int person, int knownBits, int loaf) {
-            return ((knownBits | 1 << person) & town.loaves.eaterBits[loaf]) == 0;
-        }
-
-        boolean canCut(Town town, int person, int loaf) {
-            return isStranger(town, person, known[person], loaf);
-        }
-
-        /** Those who can cut a loaf, were it not cut. */
-        int cutters(Town town, int loaf) {
-            int bits = 0;
-            for (int p = 0; p < town.people; p++) {
-                if (canCut(town, p, loaf)) {
-                    bits |= 1 << p;
-                }
-            }
-            return bits;
-        }
-
         /** Whom one would know, had a company (with its twins) met on this day. */
         int knownAfter(Town town, int person, int company) {
             int heard = town.kind[person] == DEAF ? 0 : town.metBy(person, company);
             return known[person] | heard;
         }
 
-        boolean anyCutterAfter(Town town, int company, int loaf) {
+        /** Whether somebody who can cut a loaf still could, had a company met. */
+        boolean keepsCutter(Town town, int company, int loaf) {
+            int eaters = town.loaves.eaterBits[loaf];
             for (int p = 0; p < town.people; p++) {
-                if (isStranger(town, p, knownAfter(town, p, company), loaf)) {
+                if (has(cutters[loaf], p) && (knownAfter(town, p, company) & eaters) == 0) {
                     return true;
                 }
             }
@@ -1691,9 +1681,7 @@ public final class StrangeKnives {
             measure(town, now, circle);
             for (int p = 0; p < people; p++) {
                 setOf[p] = 0;
-                for (int set = 0; set < 1 << open; set++) {
-                    inTime[p * SETS + set] = cutsInTime(p, set, now.hour, town.noonHour);
-                }
+                tryAllSets(p, now.hour, town.noonHour);
             }
             bestCost = UNFOUND;
             if (estimate()) {
@@ -1720,9 +1708,19 @@ public final class StrangeKnives {
                     int l = loafOf[k];
                     int at = p * MAX_CARRIED + k;
                     int way = Math.abs(town.loaves.house[l] - town.house[p]);
-                    houses[at] = circle.canCut(town, p, l) ? way : NONE;
+                    houses[at] = has(circle.cutters[l], p) ? way : NONE;
                     thereAt[at] = Math.max(now.hour, town.loaves.baked[l]) + way;
                 }
+            }
+        }
+
+        /** What is too much without its least loaf is too much with it. */
+        private void tryAllSets(int person, int from, int to) {
+            int at = person * SETS;
+            inTime[at] = true;
+            for (int set = 1; set < 1 << open; set++) {
+                int fewer = set & set - 1;
+                inTime[at + set] = inTime[at + fewer] && cutsInTime(person, set, from, to);
             }
         }
 
