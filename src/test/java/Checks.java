@@ -5,15 +5,21 @@ import java.util.NoSuchElementException;
 final class Checks {
     private static int wrong = 0;
     private static int asked = 0;
+    private static String sentence = "";
 
     private Checks() {
+    }
+
+    /** The document's words that the answers from here on hold to. */
+    static void sentence(String words) {
+        sentence = "\"" + words + "\": ";
     }
 
     static void due(String what, long got, long want) {
         asked++;
         if (got != want) {
             wrong++;
-            System.out.println(what + " answered " + got + ", due is " + want);
+            System.out.println(sentence + what + " answered " + got + ", due is " + want);
         }
     }
 
