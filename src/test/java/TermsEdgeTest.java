@@ -8,8 +8,10 @@ public final class TermsEdgeTest {
         knowing();
         twinsMeet();
         strangers();
+        eachOfMay();
         leastOfMay();
         bakedAndStale();
+        howManySlices();
         sharing();
         keptWeights();
         childrenAndDeaf();
@@ -21,6 +23,7 @@ public final class TermsEdgeTest {
         carrying();
         oneAnHour();
         fewestHouses();
+        byNoonAndFresh();
         spentOrNone();
         familiarAndRing();
         safeFair();
@@ -29,10 +32,14 @@ public final class TermsEdgeTest {
         seen();
         balked();
         games();
+        gamesOfCutLoaves();
         seasons();
         draws();
+        sameDrawnTwice();
         fairest();
         status();
+        imageKeeps();
+        longestUse();
         Checks.finish();
     }
 
@@ -117,6 +124,40 @@ public final class TermsEdgeTest {
         Checks.due("one of them", Checks.town("plain 0 0;deaf 1 0;met 0 1 5;").ring(), 1);
         Checks.due("two deaf ones who met", Checks.town("deaf 0 0;deaf 1 0;met 0 1 5;").ring(), 3);
         Checks.due("both", Checks.town("plain 0 0;plain 1 0;met 0 1 5;").ring(), 1);
+    }
+
+    private static void eachOfMay() {
+        Checks.sentence("1 he eats of it, or his TWIN does");
+        StrangeKnives eats = Checks.town("plain 0 0;plain 1 0;twin 2 0;plain 3 0;twin 4 0;loaf 0 9 0 9 0 2 3;");
+        mayAll(eats, new int[] {1, 1, 1, 1, 1});
+        Checks.sentence("2 he is in one HOUSE with an EATER");
+        mayAll(Checks.town("plain 4 0;plain 5 0;plain 4 0;plain 5 0;plain 3 0;plain 6 0;loaf 9 9 0 9 0 1;"),
+                new int[] {1, 1, 2, 2, 0, 0});
+        mayAll(Checks.town("plain 4 0;twin 7 0;plain 7 0;loaf 7 9 0 9 0;"), new int[] {1, 1, 0});
+        Checks.sentence("3 he knows an EATER");
+        mayAll(Checks.town("deaf 0 0;plain 1 0;deaf 2 0;plain 3 0;met 0 1 0;met 0 2 0;loaf 9 9 0 9 0;"),
+                new int[] {1, 3, 0, 0});
+        mayAll(Checks.town("plain 0 0;plain 1 0;plain 2 0;deaf 3 0;met 1 2 9;met 1 3 9;loaf 9 9 0 9 0 1;"),
+                new int[] {1, 1, 3, 0});
+        Checks.sentence("6 it was cut");
+        StrangeKnives cut = Checks.town(FOUR + "loaf 0 9 0 9 0;loaf 0 9 0 9 0;");
+        cut.cut(2, 0);
+        mayAll(cut, new int[] {1, 6, 6, 6});
+        Checks.due("another loaf", cut.may(2, 1), 0);
+    }
+
+    private static void howManySlices() {
+        Checks.sentence("SLICES: as many as EATERS (two TWINS are one)");
+        StrangeKnives x = Checks.town("plain 0 0;twin 1 0;child 2 0;twin 3 0;deaf 4 0;twin 5 0;plain 6 0;"
+                + "loaf 0 90 0 9 0 1 2 3 4 5;loaf 0 90 0 9 5 3 1 4 2 0;loaf 0 90 0 9 1 2 5;loaf 0 90 0 9 1 2 3;");
+        int[] due = {3, 3, 3, 2};
+        for (int l = 0; l < due.length; l++) {
+            Checks.due("slices of " + l, x.loaf(l, 5), due[l]);
+        }
+        for (int i = 0; i < 6; i++) {
+            Checks.due("each two have a third", x.slice(6, 0, i), 30);
+        }
+        Checks.due("no crumbs", x.slice(6, 0, -1), 0);
     }
 
     private static void leastOfMay() {
@@ -416,6 +457,30 @@ public final class TermsEdgeTest {
         }
     }
 
+    private static void byNoonAndFresh() {
+        Checks.sentence("in an HOUR no later than NOON, and not above BAKED and FRESH");
+        String people = "plain 0 0;plain 5 0;";
+        Checks.due("noon ahead of staleness", Checks.town("noon 3;" + people + "loaf 5 9 3 9 0;").noon(), 0);
+        Checks.due("baked behind noon", Checks.town("noon 3;" + people + "loaf 5 9 4 9 0;").noon(), -1);
+        Checks.due("two in the hour of noon", Checks.town("noon 3;" + people + "loaf 5 9 3 9 0;"
+                + "loaf 5 9 3 9 0;").noon(), -1);
+        Checks.due("staleness ahead of noon", Checks.town("noon 9;" + people + "loaf 5 9 3 1 0;"
+                + "loaf 5 9 3 1 0;").noon(), 0);
+        Checks.due("a third is stale", Checks.town("noon 9;" + people + "loaf 5 9 3 1 0;"
+                + "loaf 5 9 3 1 0;loaf 5 9 3 1 0;").noon(), -1);
+        Checks.due("in the last hour", Checks.town("noon 23;" + people + "loaf 5 9 23 23 0;").noon(), 0);
+        StrangeKnives x = Checks.town("noon 23;" + people + "loaf 5 9 22 23 0;loaf 5 9 23 23 0;");
+        x.hours(22);
+        Checks.due("in the last two hours", x.noon(), 0);
+        x.hours(1);
+        Checks.due("not both in the last one", x.noon(), -1);
+        StrangeKnives y = Checks.town("noon 12;" + people + "loaf 5 9 0 5 0;");
+        y.hours(5);
+        Checks.due("not above", y.noon(), 0);
+        y.hours(1);
+        Checks.due("above", y.noon(), -1);
+    }
+
     private static void spentOrNone() {
         Checks.sentence("none (so behind DAY 0, if some aren't cut)");
         StrangeKnives x = Checks.town("plain 0 0;plain 5 0;loaf 5 9 0 9 0;loaf 5 9 0 9 0;");
@@ -591,6 +656,23 @@ public final class TermsEdgeTest {
         Checks.due("10 by both", last.game(1, 2, 1), 45);
     }
 
+    private static void gamesOfCutLoaves() {
+        Checks.sentence("two each choose a LOAF (cut or not)");
+        StrangeKnives x = Checks.town("plain 0 0;plain 1 0;plain 2 0;loaf 0 50 0 9 0;loaf 0 20 0 9 0;loaf 0 9 0 9 0;");
+        int couples = x.game(1, 2, 0);
+        x.cut(1, 0);
+        Checks.due("as many rest", x.game(1, 2, 0), couples);
+        Checks.due("the first", x.game(1, 2, 1), 1);
+        x.cut(2, 1);
+        x.cut(2, 2);
+        Checks.due("all are cut", x.game(1, 2, 0), couples);
+        x.hours(99);
+        Checks.due("whatever day it is", x.game(1, 2, 0), couples);
+        x.thank(1, 0);
+        Checks.due("who knows him gains nothing, whatever he chooses", x.game(1, 2, 0), 3);
+        Checks.due("the other one takes the largest of the rest", x.game(1, 2, 1), 1);
+    }
+
     private static void seasons() {
         Checks.sentence("n DAYS (0 to 60)");
         StrangeKnives x = Checks.town("plain 0 0;plain 0 0;plain 1 0;loaf 0 9 0 9 0;loaf 0 9 0 9 0 1;");
@@ -652,7 +734,34 @@ public final class TermsEdgeTest {
         }
     }
 
+    private static void sameDrawnTwice() {
+        Checks.sentence("each DAY a DRAW of PEOPLE, then one of them again, who have MET then, if they are two");
+        StrangeKnives one = Checks.town("plain 0 0;loaf 0 9 0 9 0;");
+        Checks.due("one alone meets nobody", one.season(1, 60, 2), 0);
+        Checks.due("nor can he cut his own", one.season(1, 60, 0), 0);
+        // seed 1 draws 0 0, 1 1, 1 1 of two, then 0 1
+        StrangeKnives two = Checks.town("plain 0 0;plain 1 0;loaf 0 9 0 9 0;");
+        Checks.due("three days of one", two.season(1, 3, 2), 0);
+        Checks.due("three loaves", two.season(1, 3, 0), 3);
+        Checks.due("the fourth of two", two.season(1, 4, 2), 1);
+        Checks.due("none can cut it then", two.season(1, 4, 1), 0);
+        StrangeKnives twins = Checks.town("plain 0 0;twin 1 0;plain 2 0;loaf 0 9 0 9 0;loaf 0 9 0 9 2;");
+        Checks.due("twins meet for both", twins.season(1, 60, 2), 3);
+        Checks.sentence("the fewest on one DAY");
+        StrangeKnives forget = Checks.town("forget 1;plain 0 0;plain 1 0;loaf 0 9 0 9 0;");
+        Checks.due("the day of their meeting", forget.season(1, 6, 1), 0);
+        Checks.due("on the sixth it is forgotten", forget.season(1, 6, 0), 4);
+        Checks.sentence("how many couples know each other both ways at the end");
+        Checks.due("they don't any more", forget.season(1, 6, 2), 0);
+        Checks.due("they did ahead of that", forget.season(1, 5, 2), 1);
+    }
+
     private static void fairest() {
+        Checks.sentence("THE FAIREST for a LOAF: who CAN CUT it (were it not cut)");
+        StrangeKnives cut = Checks.town(FOUR + "loaf 0 60 0 9 0 1;");
+        cut.cut(3, 0);
+        Checks.due("though it is cut", cut.fairest(0, -1), 2);
+        Checks.due("for the first one, too", cut.fairest(0, 0), 2);
         Checks.sentence("the most that one of the SLICES has is least above the fewest that one has (of like ones the least); none");
         StrangeKnives x = Checks.town("plain 0 0;plain 1 0;plain 2 9;plain 3 3;plain 4 3;"
                 + "loaf 0 60 9 1 0 1;loaf 0 60 9 1 0 1 2 3 4;loaf 0 60 9 1 0;cuts 1+slice*hunger;");
@@ -706,5 +815,60 @@ public final class TermsEdgeTest {
         Checks.due("texts", x.count(12), texts);
         Checks.due("acts", x.count(13), acts);
         Checks.due("clues", x.count(14), clues);
+    }
+
+    private static void imageKeeps() {
+        Checks.sentence("AN IMAGE keeps DAY and HOUR, who has MET when, what was cut by whom, thanks, ACTS that are kept, what is SEEN and BALKED, STATUS");
+        StrangeKnives x = Checks.town(FOUR + "met 0 1 3;loaf 0 60 0 9 0 1;");
+        x.cut(3, 0);
+        x.thank(2, 3);
+        x.hours(26);
+        x.see(0, 0, 30);
+        x.balk(2, 0);
+        x.hours(0);
+        x.hours(0);
+        x.see(0, 7, 0);
+        Checks.tell(x, "!");
+        x.image();
+        for (int k = 0; k < 3; k++) {
+            x.undo();
+        }
+        x.forget();
+        x.fair(15);
+        x.fair(0);
+        Checks.tell(x, "!");
+        x.see(0, 7, 0);
+        Checks.due("restore()", x.restore(), true);
+        int[] due = {4, 1, 365, 12, 1, 2, 1, 2, 3, 1, 1, 0, 1, 2, 1};
+        for (int what = 0; what < due.length; what++) {
+            Checks.due("count(" + what + ")", x.count(what), due[what]);
+        }
+        Checks.due("met as told", x.met(0, 1), 4);
+        Checks.due("met by thanks", x.met(2, 3), 1);
+        Checks.due("never met", x.met(0, 3), -1);
+        Checks.due("cut by", x.loaf(0, 6), 3);
+        Checks.due("thanked", x.person(3, 4), 1);
+        Checks.due("undo() the hours", x.undo(), 2);
+        Checks.due("undo() the thanks", x.undo(), 1);
+        Checks.due("thanked no more", x.person(3, 4), 0);
+    }
+
+    private static void longestUse() {
+        Checks.sentence("An object is used for at most 512 calls after it has been made");
+        StrangeKnives x = new StrangeKnives();
+        for (int k = 0; k < 13; k++) {
+            x.feed(0x20202020, 0x20202020, 0x20202020, 0x20202020, 0x20202020);
+        }
+        x.town(260);
+        for (int k = 14; k < 511; k++) {
+            x.image();
+            x.restore();
+        }
+        Checks.due("the last call", x.season(1, 60, 0), 0);
+        StrangeKnives y = Checks.town("plain 0 0;plain 1 0;loaf 0 9 0 9 0;");
+        for (int k = 1; k <= 500; k++) {
+            Checks.due("thanked", y.thank(0, 1), k);
+        }
+        Checks.due("acts", y.count(8), 40);
     }
 }

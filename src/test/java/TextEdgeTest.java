@@ -23,6 +23,8 @@ public final class TextEdgeTest {
         wraps();
         truths();
         values();
+        leastOfOneToken();
+        tooMuch();
         Checks.finish();
     }
 
@@ -428,5 +430,37 @@ public final class TextEdgeTest {
         Checks.faultAtMark("cuts " + six + "~not 1;", 2);
         Checks.faultAtMark("cuts 1 and " + six + "~not 1;", 2);
         Checks.fault("cuts " + six + "1 and " + six + "1 or " + six + "(" + six + "1);", 0, -1);
+    }
+
+    private static void leastOfOneToken() {
+        Checks.sentence("at a TOKEN's first byte, of one TOKEN the least");
+        String seven = EIGHT.substring(0, EIGHT.length() - 10);
+        String sixEat = "loaf 0 1 0 1 0 1 2 3 4 5 ";
+        Checks.faultAtMark(seven + "twin 0 0;~twin 0 0;", 2);
+        Checks.faultAtMark(seven + "twin 0 0;noon 5;~twin 0 0;", 2);
+        Checks.faultAtMark(EIGHT + sixEat + "~5;", 2);
+        Checks.faultAtMark(EIGHT + sixEat + "~8;", 2);
+        Checks.faultAtMark(EIGHT + sixEat + "~00000;", 2);
+        Checks.faultAtMark(EIGHT + sixEat + "~slice;", 1);
+        Checks.faultAtMark(TWO + "loaf 0 1 0 1 0 ~00000;", 2);
+        Checks.faultAtMark("met ~00000 0 0;", 2);
+        Checks.faultAtMark("cuts ((((((~house))))));", 2);
+        Checks.faultAtMark("cuts ((((((~)))))));", 1);
+    }
+
+    private static void tooMuch() {
+        Checks.sentence("the first TOKEN of the 9th of PEOPLE, the 7th LOAF, the 17th of MET, the 7th of EATERS");
+        Checks.faultAtMark(EIGHT + "~plain !", 2);
+        Checks.faultAtMark(EIGHT + "loaf 0 1 0 1 0;".repeat(6) + "~loaf !", 2);
+        Checks.faultAtMark(TWO + "met 0 1 0;".repeat(16) + "~met !", 2);
+        Checks.faultAtMark(EIGHT + "loaf 0 1 0 1 0 1 2 3 4 5 ~7!", 2);
+        Checks.sentence("6 'twin' ahead of all others, or behind a twin");
+        Checks.faultAtMark("~twin !", 6);
+        Checks.faultAtMark(TWO + "twin 0 0;~twin !", 6);
+        Checks.fault(TWO + "twin 0 0;plain 0 0;twin 0 0;", 0, -1);
+        Checks.sentence("In quotes is what stands there, [ ] perhaps, * any number of times, | one of some");
+        Checks.fault("cuts 1<1;", 0, -1);
+        Checks.fault("cuts 1;", 0, -1);
+        Checks.fault("cuts 1+1-1+1*1/1*1;", 0, -1);
     }
 }
