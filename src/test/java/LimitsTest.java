@@ -14,6 +14,8 @@ public final class LimitsTest {
         firstOneCuts();
         firstOneCarries();
         rowsTriedAndLeft();
+        laterRowsAreBetter();
+        rowsOfFewerLoaves();
         fairOfSixSlices();
         leastGain();
         knowingIsSeenAtOnce();
@@ -191,6 +193,44 @@ public final class LimitsTest {
         Checks.due("carried(2)", y.carried(2), 1);
     }
 
+    /** Rows that come first carry further, all of them; asked again, the answer is the same. */
+    private static void laterRowsAreBetter() {
+        StrangeKnives one = Checks.town("plain 9 0;plain 3 0;plain 2 0;loaf 0 9 0 9 0;");
+        Checks.due("two houses ahead of three", one.noon(), 2);
+        Checks.due("carried(0)", one.carried(0), 2);
+        StrangeKnives two = Checks.town("plain 9 0;plain 3 0;plain 2 0;loaf 0 9 0 9 0;loaf 0 9 0 9 0;");
+        for (int k = 0; k < 3; k++) {
+            Checks.due("two of two houses", two.noon(), 4);
+            Checks.due("carried(0)", two.carried(0), 2);
+            Checks.due("carried(1)", two.carried(1), 2);
+        }
+        StrangeKnives five = Checks.town("plain 9 0;plain 3 0;plain 0 0;" + "loaf 0 9 0 9 0;".repeat(5));
+        Checks.due("none of five is carried", five.noon(), 0);
+        for (int l = 0; l < 5; l++) {
+            Checks.due("carried(" + l + ")", five.carried(l), 2);
+        }
+    }
+
+    /** What was thought of a loaf that is cut now doesn't hinder the others. */
+    private static void rowsOfFewerLoaves() {
+        String people = "plain 9 0;plain 2 0;plain 0 0;";
+        String near = "loaf 0 9 0 9 0;";
+        String far = "loaf 9 9 0 9 0;";
+        String[] texts = {people + far + near + near, people + near + far + near, people + near + near + far};
+        for (int cut = 0; cut < 3; cut++) {
+            StrangeKnives x = Checks.town(texts[cut]);
+            Checks.due("the far one is carried", x.noon(), 7);
+            Checks.due("it is cut", x.cut(1, cut), true);
+            Checks.due("then nothing is carried", x.noon(), 0);
+            for (int l = 0; l < 3; l++) {
+                Checks.due("carried(" + l + ")", x.carried(l), l == cut ? -1 : 2);
+            }
+            x.undo();
+            Checks.due("and again", x.noon(), 7);
+            Checks.due("to the first", x.carried(cut), 1);
+        }
+    }
+
     private static void fairOfSixSlices() {
         StrangeKnives x = Checks.town(SIX + "plain 6 9;plain 7 3;loaf 9 600 0 9 0 1 2 3 4 5;loaf 9 600 0 9 0;"
                 + "cuts 1+slice*hunger;");
@@ -357,6 +397,14 @@ public final class LimitsTest {
         x.balk(2, 0);
         x.restore();
         Checks.due("nothing was seen", x.count(9) + x.count(10), 0);
+        StrangeKnives y = Checks.town("plain 0 0;plain 1 0;plain 2 0;loaf 0 60 0 9 0 1;cuts 1+slice;");
+        y.see(0, 1, 40);
+        y.image();
+        y.forget();
+        y.see(0, 0, 40);
+        Checks.due("the first comer didn't get so much", y.who(0), 0);
+        y.restore();
+        Checks.due("the last comer did", y.who(0), 4);
     }
 
     private static void cluesOfOtherLoaves() {

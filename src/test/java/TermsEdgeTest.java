@@ -542,6 +542,9 @@ public final class TermsEdgeTest {
         Checks.due("nothing", new StrangeKnives().help(), 0);
         Checks.due("nobody can", Checks.town("plain 0 0;" + "loaf 0 9 0 9 0;".repeat(6)).help(), 6);
         Checks.due("one each", Checks.town("plain 0 0;plain 1 0;" + "loaf 0 9 0 9 0;".repeat(6)).help(), 5);
+        Checks.due("one loaf, and nobody can", Checks.town("plain 0 0;loaf 0 9 0 9 0;").help(), 1);
+        Checks.due("only the first is left", Checks.town("plain 0 0;plain 1 0;loaf 0 9 0 9 0 1;"
+                + "loaf 0 9 0 9 0;").help(), 1);
         StrangeKnives x = Checks.town("plain 0 0;plain 1 0;plain 2 0;loaf 0 9 0 9 0;loaf 0 9 0 9 0 1;");
         Checks.due("the first leaves the second to who alone can", x.help(), 0);
         x.cut(1, 0);
