@@ -26,6 +26,7 @@ public final class LimitsTest {
         imageOfOtherClues();
         cluesOfOtherLoaves();
         ruleOfOneStep();
+        shorterRuleInTheSameRows();
         valuesOfWhoCuts();
         wordsOfOtherLetters();
         Checks.finish();
@@ -423,6 +424,25 @@ public final class LimitsTest {
         for (int i = 0; i < 3; i++) {
             Checks.due("slice(3, 0, " + i + ")", x.slice(3, 0, i), due[i]);
         }
+    }
+
+    /** The third town uses the first one's rows again: steps behind its rule's end don't count. */
+    private static void shorterRuleInTheSameRows() {
+        String people = "plain 0 0;plain 1 0;plain 2 0;loaf 0 100 0 9 0 1;";
+        for (String longer : new String[] {"not slice", "not not slice", "slice+slice", "(slice and 1) or not 0"}) {
+            StrangeKnives x = Checks.town(people + "cuts " + longer + ";");
+            Checks.due("second", Checks.tell(x, people), 0);
+            Checks.due("no rule", x.slice(2, 0, 1), 50);
+            Checks.due("third", Checks.tell(x, people + "cuts slice*9;"), 0);
+            Checks.due("nine of ten behind " + longer, x.slice(2, 0, 1), 90);
+            Checks.due("fourth", Checks.tell(x, people + "cuts " + longer + ";"), 0);
+            Checks.due("fifth", Checks.tell(x, people + "cuts slice;"), 0);
+            Checks.due("one each behind " + longer, x.slice(2, 0, 1), 50);
+        }
+        StrangeKnives y = Checks.town("plain 0 0;plain 1 0;plain 2 0;plain 3 0;loaf 0 90 0 9 0 1 2;cuts not slice;");
+        Checks.tell(y, "");
+        Checks.tell(y, "plain 0 0;plain 1 0;plain 2 0;plain 3 0;loaf 0 100 0 9 0 1 2;cuts slice;");
+        Checks.due("two of four", y.slice(3, 0, 2), 50);
     }
 
     /** A rule's value of who cuts: the last comer has 99 of 100, if it is so. */

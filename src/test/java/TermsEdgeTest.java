@@ -247,6 +247,8 @@ public final class TermsEdgeTest {
         weights("slice*2048*2048*512", 100, 100);
         weights("slice*(2048*2048*512-1)", 198, 2);
         weights("0", 100, 100);
+        weights("not slice*9", 100, 100);
+        weights("not not (slice*9)", 100, 100);
         StrangeKnives without = Checks.town(FOUR + "loaf 0 200 0 1 0 1;");
         Checks.due("without a rule", without.slice(3, 0, 0), 100);
         StrangeKnives deaf = Checks.town(FOUR + "deaf 8 0;loaf 0 200 0 1 0 1;cuts slice*9;");
