@@ -32,7 +32,8 @@ public final class StrangeKnives {
     private static final int DEAF = 2;
     private static final int TWIN = 3;
 
-    private static final int NEVER = Integer.MIN_VALUE;
+    /** Ahead of every day that can be told. */
+    private static final int NEVER = -1000000;
 
     private static final int REFUSED_TEXT = 0;
     private static final int REFUSED_ACT = 1;
@@ -1660,7 +1661,8 @@ public final class StrangeKnives {
     /** Which loaves to carry to whom, so that all are cut by noon. */
     private static final class Carrier {
         static final int SETS = 1 << MAX_CARRIED;
-        static final int UNFOUND = Integer.MAX_VALUE;
+        /** Far more houses than any row needs. */
+        static final int UNFOUND = 1000000;
 
         final int[] bestRow = new int[MAX_LOAVES];
         int bestCost;
